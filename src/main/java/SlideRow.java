@@ -244,16 +244,17 @@ public final class SlideRow {
     }
 
     private int sizeOf(int a) {
-        return HEADER + fieldsOf(a) + wordsOf(a);
+        int shape = read(a + SHAPE);
+        return HEADER + (shape >> SHAPE_SHIFT) + (shape & SHAPE_MASK);
     }
 
     // Every use of a single cell goes through read and write, so that each index is tested.
     private int read(int cell) {
-        return isCell(cell) ? cells[cell] : 0;
+        return cell >= FIRST && cell < cells.length ? cells[cell] : 0;
     }
 
     private void write(int cell, int value) {
-        if (isCell(cell)) {
+        if (cell >= FIRST && cell < cells.length) {
             cells[cell] = value;
         }
     }
@@ -264,19 +265,15 @@ public final class SlideRow {
         return before;
     }
 
-    private boolean isCell(int cell) {
-        return cell >= FIRST && cell < cells.length;
-    }
-
     // Cells behind the last object keep what went objects left in them.
     private void clearCells(int from, int size) {
-        if (isCell(from) && size > 0 && size <= cells.length - from) {
-            Arrays.fill(cells, from, from + size, 0);
+        for (int i = 0; i < size; i++) {
+            write(from + i, 0);
         }
     }
 
     private void moveCells(int from, int to, int size) {
-        if (to < from && isCell(to) && size > 0 && size <= cells.length - from) {
+        if (to >= FIRST && to < from && size > 0 && size <= cells.length - from) {
             System.arraycopy(cells, from, cells, to, size);
         }
     }

@@ -3,6 +3,8 @@ public final class PromiseTest {
     private static final Report REPORT = new Report();
     private static final int[] EXTREMES = {Integer.MIN_VALUE, -2, -1, Integer.MAX_VALUE - 2, Integer.MAX_VALUE};
 
+    private static final int[] LOOKS_LIKE_A_HEADER = {1, 4097, 1 << 16 | 1};
+
     public static void main(String[] args) {
         promise1NewObject();
         promise2Space();
@@ -102,6 +104,29 @@ public final class PromiseTest {
         due("space(2049)", x.space(2049), 16384);
         due("space(2049): no room for 2050", x.make(2000, 47), 0);
         due("space(2049): room for 2049", x.make(2000, 46), 1);
+        for (int n : new int[] {16, 2047, 2048, 2049, 16384}) {
+            lastCellHolds(n);
+        }
+    }
+
+    /** On a new object: a space just above the first one needs a longer row too. */
+    private static void lastCellHolds(int n) {
+        SlideRow x = new SlideRow();
+        due("space(" + n + ")", x.space(n), 2048);
+        int left = n;
+        int last = 0;
+        while (left > 0) {
+            int size = left <= 2003 ? left : Math.min(2003, left - 4);
+            last = x.make(0, size - 3);
+            due("space(" + n + "): make", last, n - left + 1);
+            left -= size;
+        }
+        int k = n - last - 3;
+        due("space(" + n + "): put in the last cell", x.put(last, k, 77), 0);
+        due("space(" + n + "): word in the last cell", x.word(last, k), 77);
+        x.root(0, last);
+        due("space(" + n + "): slide", x.slide(), k + 4);
+        due("space(" + n + "): the last cell's word has moved", x.word(1, k), 77);
     }
 
     private static void promise2SpaceForgets() {
@@ -587,12 +612,16 @@ public final class PromiseTest {
         SlideRow x = new SlideRow();
         x.make(0, 9);
         for (int k = 0; k < 9; k++) {
-            x.put(1, k, k % 3 == 0 ? 0 : 1);
+            x.put(1, k, k % 3 == 0 ? 0 : LOOKS_LIKE_A_HEADER[k / 3]);
         }
         for (int a = 2; a <= 20; a++) {
             int inside = a;
             noSuch("next(" + inside + ")", x, () -> x.next(inside));
             noSuch("number(" + inside + ")", x, () -> x.number(inside));
+            noSuch("get(" + inside + ", 0)", x, () -> x.get(inside, 0));
+            noSuch("word(" + inside + ", 0)", x, () -> x.word(inside, 0));
+            noSuch("put(" + inside + ", 0, 5)", x, () -> x.put(inside, 0, 5));
+            noSuch("set(" + inside + ", 0, 1)", x, () -> x.set(inside, 0, 1));
         }
     }
 }
