@@ -38,6 +38,10 @@ final class Report {
         due(what, answer(call), "throws " + NoSuchElementException.class.getName());
     }
 
+    int faults() {
+        return wrong;
+    }
+
     void fault(String text) {
         wrong++;
         if (wrong <= 50) {

@@ -1,7 +1,12 @@
+import java.util.ArrayList;
+import java.util.List;
 import java.util.NoSuchElementException;
 
 /** All that can be seen of a SlideRow by calls that change nothing, as a text. */
 final class View {
+    // A row that tells more objects than the cells allow must not hold a test up for ever.
+    private static final int MOST_OBJECTS = 16384 / 3;
+
     private View() {
     }
 
@@ -13,7 +18,7 @@ final class View {
         for (int r = 0; r < 16; r++) {
             text.append("root ").append(r).append(" = ").append(x.rooted(r)).append("; ");
         }
-        for (int a = x.next(0); a != 0; a = x.next(a)) {
+        for (int a : addresses(x)) {
             text.append("object ").append(a).append(':');
             appendFields(text, x, a);
             appendWords(text, x, a);
@@ -23,6 +28,14 @@ final class View {
             text.append("number ").append(n).append(" = ").append(x.find(n)).append("; ");
         }
         return text.toString();
+    }
+
+    static List<Integer> addresses(SlideRow x) {
+        List<Integer> found = new ArrayList<>();
+        for (int a = x.next(0); a != 0 && found.size() <= MOST_OBJECTS; a = x.next(a)) {
+            found.add(a);
+        }
+        return found;
     }
 
     private static void appendFields(StringBuilder text, SlideRow x, int a) {
