@@ -346,6 +346,7 @@ public final class ModelTest {
             }
         }
 
+        /** Goes on beyond the 512th call: answers are free there, but this program's stay the same. */
         void lookAtAll() {
             for (int what = 0; what <= 6; what++) {
                 int w = what;

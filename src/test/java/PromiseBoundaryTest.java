@@ -49,10 +49,12 @@ public final class PromiseBoundaryTest {
         String set = "Promise 4: set";
         s.test(set, "A field of the object at a becomes the object at b (0: nothing): what it told.",
                 PromiseBoundaryTest::setAnswers);
-        s.test(set, "NoSuchElementException: a, field, or b (that can be 0).", "field", PromiseBoundaryTest::setFieldBounds);
-        s.test(set, "NoSuchElementException: a, field, or b (that can be 0).", "a and b", PromiseBoundaryTest::setZero);
+        String none = "NoSuchElementException: a, field, or b (that can be 0).";
+        s.test(set, none, "field", PromiseBoundaryTest::setFieldBounds);
+        s.test(set, none, "a and b", PromiseBoundaryTest::setZero);
         s.test("Promise 5: get", "What a field tells. NoSuchElementException.", PromiseBoundaryTest::getBounds);
-        s.test("Promise 6: put", "A word becomes v: what it was. NoSuchElementException.", PromiseBoundaryTest::putBounds);
+        s.test("Promise 6: put", "A word becomes v: what it was. NoSuchElementException.",
+                PromiseBoundaryTest::putBounds);
         s.test("Promise 7: word", "A word. NoSuchElementException.", PromiseBoundaryTest::wordBounds);
     }
 

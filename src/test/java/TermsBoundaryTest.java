@@ -8,7 +8,7 @@ public final class TermsBoundaryTest {
         whatItIs(sentences);
         termsOfObjects(sentences);
         termsOfSlides(sentences);
-        termsOfNumbers(sentences);
+        termsOfNumbersAndExceptions(sentences);
         REPORT.end();
     }
 
@@ -56,13 +56,15 @@ public final class TermsBoundaryTest {
         String goes = "A SLIDE: what is not reached goes";
         s.test(at, goes, "no objects", TermsBoundaryTest::slideOfNoObjects);
         s.test(at, goes, "no roots", TermsBoundaryTest::slideWithoutRoots);
-        s.test(at, goes, "no roots, objects that tell themselves or each other", TermsBoundaryTest::slideOfRingsWithoutRoots);
+        s.test(at, goes, "no roots, objects that tell themselves or each other",
+                TermsBoundaryTest::slideOfRingsWithoutRoots);
         String come = "the others come, in the order of their addresses, one directly behind another, from 1 on";
         s.test(at, come, "all objects reached", TermsBoundaryTest::slideOfAll);
         s.test(at, come, "one of four goes", TermsBoundaryTest::slideOfAllButOne);
         s.test(at, come, "one of four stays", TermsBoundaryTest::slideOfOne);
         s.test(at, come, "roots in the other order", TermsBoundaryTest::slideOrderIsOfAddresses);
         s.test(at, come, "over cells of its own", TermsBoundaryTest::slideOverOwnCells);
+        s.test(at, come, "again, with one's old cells behind the last", TermsBoundaryTest::slideBesideOldCells);
         String follow = "fields and roots that told one of them tell its new address";
         s.test(at, follow, "fields that tell themselves", TermsBoundaryTest::slideOfSelfTellers);
         s.test(at, follow, "fields that tell each other", TermsBoundaryTest::slideOfEachOther);
@@ -70,11 +72,14 @@ public final class TermsBoundaryTest {
         s.test(at, follow, "all sixteen roots", TermsBoundaryTest::slideWithAllRoots);
     }
 
-    private static void termsOfNumbers(Sentences s) {
+    private static void termsOfNumbersAndExceptions(Sentences s) {
         String at = "Terms";
         s.test(at, "IDENTITY NUMBERS are given to objects when they are first asked for, 0, 1, 2, ..",
                 TermsBoundaryTest::numbersFromFirstOn);
         s.test(at, "and go along with them", TermsBoundaryTest::numbersGoAlong);
+        s.test(at, "NoSuchElementException: there is no such object, field, word or root.",
+                TermsBoundaryTest::noSuchElements);
+        s.test(at, "IllegalArgumentException as told.", TermsBoundaryTest::illegalArguments);
     }
 
     private static void makesUpToTheLastCall() {
@@ -446,6 +451,19 @@ public final class TermsBoundaryTest {
         }
     }
 
+    private static void slideBesideOldCells() {
+        SlideRow x = new SlideRow();
+        x.make(1, 1);
+        x.make(1, 1);
+        x.root(0, 6);
+        due("slide to just in front of the old cells", x.slide(), 5);
+        x.put(1, 0, 8);
+        x.set(1, 0, 1);
+        due("slide again", x.slide(), 5);
+        due("its word, not that in the old cells", x.word(1, 0), 8);
+        due("its field, not that in the old cells", x.get(1, 0), 1);
+    }
+
     private static void slideOfSelfTellers() {
         SlideRow x = Rows.four();
         x.set(12, 0, 12);
@@ -520,5 +538,28 @@ public final class TermsBoundaryTest {
         due("find of 16", x.find(1), 5);
         due("find of 1, that went", x.find(0), 0);
         due("still three given", x.count(5), 3);
+    }
+
+    private static void noSuchElements() {
+        SlideRow x = Rows.four();
+        REPORT.noSuch("no such object", () -> x.number(2));
+        REPORT.noSuch("no such object, nor a field of it", () -> x.get(2, -1));
+        REPORT.noSuch("no such field", () -> x.get(1, 2));
+        REPORT.noSuch("no such word", () -> x.word(1, 1));
+        REPORT.noSuch("no such root", () -> x.rooted(16));
+        due("the last object", x.number(16), 0);
+        due("the last field", x.get(1, 1), 0);
+        due("the last word", x.word(7, 1), 0);
+        due("the last root", x.rooted(15), 0);
+        due("no such number is no exception", x.find(1), 0);
+    }
+
+    private static void illegalArguments() {
+        SlideRow x = Rows.four();
+        REPORT.illegal("n", () -> x.space(15));
+        REPORT.illegal("fields", () -> x.make(2001, 0));
+        REPORT.illegal("words", () -> x.make(0, 2001));
+        REPORT.illegal("what", () -> x.count(7));
+        due("no room is no exception", x.make(2000, 2000), 0);
     }
 }
