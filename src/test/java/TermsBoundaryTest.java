@@ -300,6 +300,9 @@ public final class TermsBoundaryTest {
         x.root(4, 7);
         x.root(4, 0);
         due("reached when the root is nothing again", x.count(2), 0);
+        x.set(1, 1, 12);
+        x.number(1);
+        due("reached without roots, with a number given", x.count(2), 0);
     }
 
     private static void allReached() {
@@ -340,6 +343,13 @@ public final class TermsBoundaryTest {
         due("only the one in the root stays", x.slide(), 5);
         due("word 0 is as before", x.word(1, 0), 12);
         due("word 1 is as before", x.word(1, 1), 16);
+        SlideRow y = new SlideRow();
+        y.make(0, 4);
+        y.make(1, 0);
+        y.root(0, 1);
+        y.put(1, 0, 4096);
+        y.put(1, 3, 8);
+        due("words that look like an object with a field", y.count(2), 1);
     }
 
     private static void slideOfNoObjects() {
